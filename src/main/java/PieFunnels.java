@@ -96,11 +96,8 @@ public final class PieFunnels {
 
     public int copy(int p, int q, int i, int j, int n) {
         int no = noRows(p, q);
-        if (no == NOBODY || no == OTHER) {
-            return refuse(no);
-        }
         if (no == 0 && shelves[p].sort != shelves[q].sort) {
-            return refuse(OTHER);
+            no = OTHER;
         }
         if (no != 0) {
             return refuse(no);
@@ -403,7 +400,7 @@ public final class PieFunnels {
         if (what == 0 && (state < 0 || state >= STATES)) {
             return refuse(WRONG);
         }
-        int all = tenTo(pie.unknowns());
+        int all = Math.max(1, tenTo(pie.unknowns()));
         int sum = 0;
         voice.take(bakery, bird);
         for (int number = 0; number < all; number++) {
@@ -785,7 +782,7 @@ public final class PieFunnels {
         return false;
     }
 
-    /** How many PIES of k layers there are; 1 and not less, for it is divided by. */
+    /** How many PIES of k layers there are. */
     private static int tenTo(int k) {
         switch (k) {
             case 1:

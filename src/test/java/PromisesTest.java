@@ -37,6 +37,7 @@ public final class PromisesTest {
         t.minutes();
         t.after();
         t.kings();
+        t.kingsOfEightLayers();
         t.tribes();
         t.tribesRefused();
         t.alike();
@@ -97,8 +98,10 @@ public final class PromisesTest {
         c.due("row(7, 3, 160)", x.row(7, 3, 160), 1);
         c.due("element(7, 159)", x.element(7, 159), 0);
         x.set(7, 159, 5);
+        x.set(7, 0, 5);
         c.due("row(7, 3, 160) anew", x.row(7, 3, 160), 1);
         c.due("element(7, 159) of the new one", x.element(7, 159), 0);
+        c.due("element(7, 0) of the new one", x.element(7, 0), 0);
         c.due("row(8, 9, -1)", x.row(8, 9, -1), -1);
         c.due("row(-1, 0, 1)", x.row(-1, 0, 1), -1);
         c.due("row(0, 9, -1)", x.row(0, 9, -1), -4);
@@ -284,6 +287,10 @@ public final class PromisesTest {
         c.due("ask(2, 256)", x.ask(2, 256), -6);
         c.due("ask(2, -1)", x.ask(2, -1), -6);
         c.due("ask(2, 3)", x.ask(2, 3), 255);
+        c.due("ask(2, 0)", x.ask(2, 0), 3);
+        c.due("ask(2, 3)", x.ask(2, 3), 0);
+        c.due("ask(1, 0)", x.ask(1, 0), 1);
+        c.due("ask(1, 1)", x.ask(1, 1), 0);
         c.due("ask(3, 0)", x.ask(3, 0), -6);
         c.due("ask(-1, 0)", x.ask(-1, 0), -6);
         c.due("status(1)", x.status(1), 0);
@@ -659,9 +666,16 @@ public final class PromisesTest {
         c.due("next(0)", x.next(0), 0);
         // HEAT 5, MOUTH 2, a 0: 7 of 0 is by five alike; 9 of 1 is 10 by CHIPPED and WIDOW: three at most
         c.due("next(1)", x.next(1), 1);
+        x.bird(6, 5, 4);
+        x.bird(0, 0, 11);
+        x.ask(0, 1);
+        // MOUTH 4, a 5: 5 of 0 is 5 by four (CHIPPED too), 7 of 1 likewise, 9 of 2 is 10 by CHIPPED, 15 by WIDOW
+        c.due("next(2)", x.next(2), 2);
+        // MOUTH 11, a 0: 12 of 0 is 13 by CHIPPED and WIDOW
+        c.due("next(3)", x.next(3), 0);
         x.ask(0, 0);
         c.due("never parted", x.next(1), -1);
-        c.due("next(2)", x.next(2), -11);
+        c.due("next(4)", x.next(4), -11);
         c.due("next(-1)", x.next(-1), -11);
         refusals(x, 2);
     }
@@ -687,7 +701,10 @@ public final class PromisesTest {
         c.due("all comes from one of all", x.chance(2, 0, 0, 0) + x.chance(2, 0, 1, 0) + x.chance(2, 0, 2, 0)
             + x.chance(2, 0, 3, 0) + x.chance(2, 0, 4, 0) + x.chance(2, 0, 5, 0) + x.chance(2, 0, 6, 0)
             + x.chance(2, 0, 7, 0), 1000000);
+        x.bird(2, 0, 1);
+        c.due("MOUTH 1 of 0 unknown: ROOT 1 and any", x.chance(0, 1, 3, 0), 200000);
         Checks.fill(x, 3, 3);
+        c.due("MOUTH 1 of 3: SIGN 12", x.chance(3, 1, 3, 0), 1000000);
         c.due("nothing is unknown", x.chance(3, 0, 2, 0), 1000000);
         c.due("nothing is unknown, HOPE", x.chance(3, 0, 2, 1), 1000);
     }
@@ -729,13 +746,16 @@ public final class PromisesTest {
         c.due("2 is ill", x.minutes(0, 0), 2);
         x.ask(2, 1 << 2 | 1 << 4);
         c.due("2 and 4 are ill", x.minutes(0, 0), 3);
+        x.bird(6, 0, 0);
+        c.due("CHILD by HEAT 5: ROOT 0, 1", x.minutes(0, 1), 0);
+        c.due("BIRD behind CHILD", x.minutes(0, 0), 3);
         x.ask(2, 255);
         c.due("all are ill", x.minutes(0, 0), 5);
         c.due("status(1) is as it was", x.status(1), 5);
         x.show(1, 0);
         Checks.fill(x, 3, 10);
         c.due("minutes(8, 0)", x.minutes(8, 0), -11);
-        c.due("minutes(1, 1)", x.minutes(1, 1), -11);
+        c.due("minutes(1, 2)", x.minutes(1, 2), -11);
         c.due("minutes(1, 0)", x.minutes(1, 0), -12);
         c.due("minutes(2, 0)", x.minutes(2, 0), -13);
         c.due("minutes(3, 0)", x.minutes(3, 0), -16);
@@ -752,11 +772,15 @@ public final class PromisesTest {
         }
         x.ask(1, 4);
         c.due("from the STATE there is", x.after(0, 0, 2), 2);
+        x.bird(5, 0, 3);
+        // TWICE by MOUTH 3: SIGNS 10 10, so 2 more by each
+        c.due("the BIRD that is asked", x.after(0, 1, 3), 2);
+        c.due("the BIRD that is asked", x.after(0, 0, 3), 5);
         c.due("status(2) is as it was", x.status(2), 4);
         x.show(1, 0);
         Checks.fill(x, 3, 10);
         c.due("after(8, 0, 99)", x.after(8, 0, 99), -1);
-        c.due("after(1, 1, 99)", x.after(1, 1, 99), -1);
+        c.due("after(1, 2, 99)", x.after(1, 2, 99), -1);
         c.due("after(1, 0, 99)", x.after(1, 0, 99), -2);
         c.due("after(2, 0, 99)", x.after(2, 0, 99), -3);
         c.due("after(3, 0, 0)", x.after(3, 0, 0), -6);
@@ -778,8 +802,18 @@ public final class PromisesTest {
         Checks.fill(x, 0, 0, 0, 9);
         c.due("all ill, three layers", x.kings(0, 0, 0), 3);
         c.due("by HEAT", x.kings(0, 0, 1), 3);
+        Checks.fill(x, 0, 0);
+        x.ask(2, 31 << 1);
+        // from 0 one SIGN brings one of 1 to 5, and the other king chooses which
+        c.due("all that one layer may bring are ill", x.kings(0, 0, 0), 1);
+        c.due("by HEAT", x.kings(0, 0, 1), 1);
+        for (int well = 1; well < 6; well++) {
+            x.ask(2, 255 - (1 << well));
+            c.due("all but " + well, x.kings(0, 0, 0), 0);
+        }
         x.ask(2, 1 << 4);
         // the first layer brings 4 by ROOT 3, so by HEAT 3 or 8; the last need not bring it again
+        Checks.fill(x, 0, 0, 0, 9);
         c.due("4 is ill", x.kings(0, 0, 0), 1);
         c.due("by HEAT", x.kings(0, 0, 1), 3);
         c.due("the PIE is as it was", x.element(0, 2), 9);
@@ -796,6 +830,25 @@ public final class PromisesTest {
         c.due("kings(3, 0, 0)", x.kings(3, 0, 0), -6);
         c.due("no layers", x.kings(4, 0, 1), -6);
         refusals(x, 2, 1, 1, 0, 2, 2);
+    }
+
+    private void kingsOfEightLayers() {
+        c.about("26 kings of eight layers");
+        PieFunnels x = new PieFunnels();
+        x.bird(0, 0, 0);
+        Checks.fill(x, 0, 0, 0, 0, 0, 0, 0, 0, 0);
+        // a SIGN more, a STATE more; from 7 only ROOT 0 leads out, and the other king takes it by the last layer
+        for (int state = 0; state < 8; state++) {
+            for (int root = 0; root < 5; root++) {
+                x.table(state, root, state < 7 ? state + 1 : root == 0 ? 0 : 7);
+            }
+        }
+        x.ask(2, 1 << 7);
+        c.due("7 is ill", x.kings(0, 0, 0), 1);
+        c.due("by HEAT", x.kings(0, 0, 1), 7);
+        x.ask(2, 1 << 7 | 1);
+        c.due("7 and 0 are ill", x.kings(0, 0, 0), 2);
+        c.due("by HEAT", x.kings(0, 0, 1), 8);
     }
 
     private void tribes() {
@@ -1073,6 +1126,7 @@ public final class PromisesTest {
         x.show(1, 0);
         x.show(2, 1);
         x.show(3, 2);
+        x.show(7, 2);
         x.set(0, 0, 4);
         x.act(2, 0, 0);
         Checks.text(x, 4, "ill");
@@ -1090,6 +1144,7 @@ public final class PromisesTest {
         c.due("a SHELF with a BIRD of it", x.holds(1), 0);
         c.due("a SHELF with a BIRD beyond it", x.holds(2), -1);
         c.due("a SHELF with a BIRD beyond it", x.holds(3), -1);
+        c.due("the last SHELF", x.holds(7), -1);
         c.due("a ROW is as it was", x.element(0, 0), 4);
         c.due("the FAULT is as it was", x.fault(), 3);
         c.due("THE TRACE is as it was", x.status(7), 1);
@@ -1100,6 +1155,10 @@ public final class PromisesTest {
         c.due("birdOf(1, 0)", x.birdOf(1, 0), 6);
         c.due("image() anew", x.image(), 2);
         c.due("restore()", x.restore(), 2);
+        x.bird(0, 0, 0);
+        x.show(0, 2);
+        x.restore();
+        c.due("the first SHELF", x.holds(0), -1);
     }
 
     private void status() {
