@@ -167,7 +167,7 @@ public final class PieFunnels {
             case PRICKED:
                 pie.setByNumber(3, 210);
                 voice.speak(pie);
-                return voice.count == 0 ? NONE : voice.signs[0];
+                return voice.sign(0);
             default:
                 return voice.a;
         }
@@ -264,7 +264,8 @@ public final class PieFunnels {
         if (i == NONE) {
             return voice.count;
         }
-        return i < 0 || i >= voice.count ? refuse(BEYOND) : voice.signs[i];
+        int sign = voice.sign(i);
+        return sign == NONE ? refuse(BEYOND) : sign;
     }
 
     public int brings(int s, int bird, int what) {
@@ -294,7 +295,8 @@ public final class PieFunnels {
         if (i == NONE) {
             return found ? pie.layers : NONE;
         }
-        return found && i >= 0 && i < pie.layers ? pie.stuffings[i] : refuseFar(BEYOND);
+        int stuffing = found ? pie.layer(i) : NONE;
+        return stuffing == NONE ? refuseFar(BEYOND) : stuffing;
     }
 
     public int safe(int bird) {
@@ -358,7 +360,7 @@ public final class PieFunnels {
             voice.speak(pie);
             if (voice.saysJust(shelves[p])) {
                 if (i != NONE) {
-                    return pie.stuffings[i];
+                    return pie.layer(i);
                 }
                 many++;
             }
@@ -563,7 +565,7 @@ public final class PieFunnels {
             bakery.heat = bakery.draw(HEATS);
             pie.setByNumber(3, 0);
             for (int layer = 0; layer < pie.layers; layer++) {
-                pie.stuffings[layer] = bakery.draw(STUFFINGS);
+                pie.setLayer(layer, bakery.draw(STUFFINGS));
             }
             bakeInTruth(bird);
         }
@@ -755,7 +757,7 @@ public final class PieFunnels {
     private int fewestIllsByLast() {
         int fewest = Integer.MAX_VALUE;
         for (int stuffing = 0; stuffing < STUFFINGS; stuffing++) {
-            pie.setLast(stuffing);
+            pie.setLayer(pie.layers - 1, stuffing);
             voice.speak(pie);
             fewest = Math.min(fewest, bakery.illsOf(voice));
         }
@@ -981,9 +983,14 @@ public final class PieFunnels {
             }
         }
 
-        private void setLast(int stuffing) {
-            if (layers > 0 && layers <= stuffings.length) {
-                stuffings[layers - 1] = stuffing;
+        /** NONE where there is no such layer, or where it isn't known. */
+        private int layer(int i) {
+            return i < 0 || i >= layers || i >= stuffings.length ? NONE : stuffings[i];
+        }
+
+        private void setLayer(int i, int stuffing) {
+            if (i >= 0 && i < layers && i < stuffings.length) {
+                stuffings[i] = stuffing;
             }
         }
 
@@ -1056,15 +1063,20 @@ public final class PieFunnels {
             }
         }
 
+        /** NONE where there is no such SIGN. */
+        private int sign(int i) {
+            return i < 0 || i >= count || i >= signs.length ? NONE : signs[i];
+        }
+
         private void sayLayers(Pie pie) {
             count = Math.max(0, Math.min(Math.min(pie.layers, heat), MOST_LAYERS));
-            for (int i = 0; i < count; i++) {
-                signs[i] = (2 * pie.stuffings[i] + heat + mouth) % SIGNS;
+            for (int i = 0; i < count && i < signs.length; i++) {
+                signs[i] = (2 * pie.layer(i) + heat + mouth) % SIGNS;
             }
         }
 
         private void chip() {
-            for (int i = 0; i < count; i++) {
+            for (int i = 0; i < count && i < signs.length; i++) {
                 if (signs[i] % 3 == 0) {
                     signs[i] = (signs[i] + 1) % SIGNS;
                 }
@@ -1072,14 +1084,14 @@ public final class PieFunnels {
         }
 
         private void raise() {
-            for (int i = 0; i < count; i++) {
+            for (int i = 0; i < count && i < signs.length; i++) {
                 signs[i] = (signs[i] + a) % SIGNS;
             }
         }
 
         private void keepEachSecond() {
             count /= 2;
-            for (int i = 0; i < count; i++) {
+            for (int i = 0; i < count && 2 * i + 1 < signs.length; i++) {
                 signs[i] = signs[2 * i + 1];
             }
         }
@@ -1100,7 +1112,7 @@ public final class PieFunnels {
         }
 
         private void order() {
-            for (int i = 1; i < count; i++) {
+            for (int i = 1; i < count && i < signs.length; i++) {
                 for (int j = i; j > 0 && signs[j - 1] > signs[j]; j--) {
                     swap(j - 1, j);
                 }
@@ -1235,7 +1247,7 @@ public final class PieFunnels {
             if (first == 'b' && draft.birds >= MOST_BIRDS) {
                 fail(start);
             }
-            for (int i = 0; i < numbersBehind(first); i++) {
+            for (int i = 0; i < numbersBehind(first) && i < numbers.length; i++) {
                 expect(' ');
                 numbers[i] = readNumber(most(first, i));
             }

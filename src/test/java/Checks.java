@@ -8,6 +8,16 @@ final class Checks {
         about = what;
     }
 
+    /** What is tested from here on: words of the document under a promise, or under its Terms (0). */
+    void sentence(int promise, String words) {
+        about = (promise == 0 ? "Terms: " : "promise " + promise + ": ") + words;
+    }
+
+    /** A call by its name, with the answer that is due. */
+    void asks(PieFunnels x, long want, String call, long... arguments) {
+        due(Calls.told(call, arguments), Calls.on(x, call, arguments), want);
+    }
+
     void due(String call, long got, long want) {
         asked++;
         if (got != want) {
