@@ -101,6 +101,7 @@ public final class BoundsOfSaidTest {
             PieFunnels x = with(CHIPPED, 9, (sign + 19) % 20, 1);
             saidOf(Checks.fill(x, 0, 0), due[sign]);
         }
+        saidOf(Checks.fill(with(CHIPPED, 9, 0, 9), 0, 0, 1, 2, 3, 4, 5, 6, 7), 10, 11, 13, 16, 17, 19, 1, 4);
     }
 
     private void widow() {
@@ -113,6 +114,8 @@ public final class BoundsOfSaidTest {
                 saidOf(Checks.fill(x, 0, 0), due < 20 ? due : due - 20);
             }
         }
+        // each by itself: 9 11 13 15 17 19 1 3 are 10 11 13 16 17 19 1 4, and 3 more
+        saidOf(Checks.fill(with(WIDOW, 3, 0, 9), 0, 0, 1, 2, 3, 4, 5, 6, 7), 13, 14, 16, 19, 0, 2, 4, 7);
         c.due("11 and 9", Checks.fill(with(WIDOW, 9, 10, 1), 0, 0).said(0, 0, 0), 0);
         c.due("19 and 1", Checks.fill(with(WIDOW, 1, 18, 1), 0, 0).said(0, 0, 0), 0);
         c.due("19 and 9", Checks.fill(with(WIDOW, 9, 18, 1), 0, 0).said(0, 0, 0), 8);

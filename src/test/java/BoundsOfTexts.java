@@ -86,15 +86,19 @@ final class BoundsOfTexts {
     private void eachItemAlone() {
         c.sentence(0, "bird K A M; heat N; state S; goes S R T (in TABLE); ill S; well S.");
         String[] texts = {"bird 3 2 1", "heat 3", "state 3", "goes 0 0 3", "goes 7 4 3", "goes 0 4 3", "goes 7 0 3",
-            "ill 3", "well 1"};
-        // which of what is seen comes to be what; all else stays
-        int[][] due = {{0, 2}, {1, 3}, {2, 3}, {4, 3}, {5, 3}, {6, 3}, {7, 3}, {3, 10}, {3, 0}};
+            "ill 3", "ill 1", "well 1", "well 3"};
+        // what the text tells, as a call
+        String[] calls = {"bird", "ask", "ask", "table", "table", "table", "table", "ask", "ask", "ask", "ask"};
+        long[][] arguments = {{3, 2, 1}, {0, 3}, {1, 3}, {0, 0, 3}, {7, 4, 3}, {0, 4, 3}, {7, 0, 3}, {2, 10}, {2, 2},
+            {2, 0}, {2, 2}};
         for (int i = 0; i < texts.length; i++) {
-            PieFunnels x = withBirds(1);
+            PieFunnels x = withBirds(2);
+            PieFunnels twin = Checks.text(withBirds(2), 0, texts[i]);
             x.ask(2, 2);
-            int[] all = seen(x);
-            all[due[i][0]] = due[i][1];
-            c.that("<" + texts[i] + "> tells one thing", Arrays.equals(all, seen(reads(x, texts[i], 1))));
+            twin.ask(2, 2);
+            Calls.on(twin, calls[i], arguments[i]);
+            reads(x, texts[i], 1);
+            c.that("<" + texts[i] + "> tells one thing", Twins.all(x).equals(Twins.all(twin)));
         }
     }
 
