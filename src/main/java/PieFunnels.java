@@ -603,7 +603,7 @@ public final class PieFunnels {
         }
         bakery.become(kept);
         for (int s = 0; s < SHELVES; s++) {
-            if (shelves[s].content == Shelf.OF_BIRD && bakery.lacks(shelves[s].bird)) {
+            if (!noShelf(s) && shelves[s].content == Shelf.OF_BIRD && bakery.lacks(shelves[s].bird)) {
                 shelves[s].holdNothing();
             }
         }
@@ -648,7 +648,7 @@ public final class PieFunnels {
     }
 
     private boolean noShelf(int s) {
-        return s < 0 || s >= SHELVES;
+        return s < 0 || s >= shelves.length || shelves[s] == null;
     }
 
     /** Why SHELF s can't be read as a ROW: a refusal, or 0. */
@@ -755,11 +755,12 @@ public final class PieFunnels {
     }
 
     private int fewestIllsByLast() {
-        int fewest = Integer.MAX_VALUE;
+        int fewest = NONE;
         for (int stuffing = 0; stuffing < STUFFINGS; stuffing++) {
             pie.setLayer(pie.layers - 1, stuffing);
             voice.speak(pie);
-            fewest = Math.min(fewest, bakery.illsOf(voice));
+            int ills = bakery.illsOf(voice);
+            fewest = fewest == NONE ? ills : Math.min(fewest, ills);
         }
         return fewest;
     }

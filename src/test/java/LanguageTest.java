@@ -27,9 +27,11 @@ public final class LanguageTest {
         this.code = code;
     }
 
-    public static void main(String[] args) throws IOException {
+    public static void main(String[] args) throws Exception {
         LanguageTest test = new LanguageTest(plain(Files.readString(Path.of("src/main/java/PieFunnels.java"))));
         test.words();
+        test.library();
+        test.shelvesAreLookedAt();
         test.face();
         test.names();
         test.sizes();
@@ -54,9 +56,75 @@ public final class LanguageTest {
         c.that("nothing whose name ends in Exact", !code.contains("Exact"));
         c.that("no text joined by +", !code.contains("\" +") && !code.contains("+ \""));
         Matcher library = Pattern.compile("\\b(System|Math|Integer|Long|Arrays)\\.(\\w+)").matcher(code);
-        List<String> known = Arrays.asList("System.arraycopy", "Math.max", "Math.min", "Integer.MAX_VALUE");
+        // the functions alone: rule 4 leaves no field of the library's classes
+        List<String> known = Arrays.asList("System.arraycopy", "Math.max", "Math.min");
         while (library.find()) {
             c.that(library.group() + " is one of the library that the rules leave", known.contains(library.group()));
+        }
+    }
+
+    private void library() {
+        c.about("rule 4");
+        Set<String> own = new TreeSet<>(Arrays.asList("length", "charAt", "isEmpty", "arraycopy", "max", "min"));
+        Set<String> fields = new TreeSet<>(Arrays.asList("length"));
+        for (Class<?> one : classes()) {
+            for (Method method : one.getDeclaredMethods()) {
+                own.add(method.getName());
+            }
+            for (Field field : one.getDeclaredFields()) {
+                fields.add(field.getName());
+            }
+        }
+        Matcher used = Pattern.compile("\\.(\\w+)(\\()?").matcher(code);
+        while (used.find()) {
+            Set<String> left = used.group(2) == null ? fields : own;
+            c.that(used.group() + " is the program's own or one that the rules leave", left.contains(used.group(1)));
+        }
+        Matcher types = Pattern.compile("\\b[A-Z][a-z]\\w*").matcher(code);
+        Set<String> known = new TreeSet<>(Arrays.asList("String", "System", "Math"));
+        for (Class<?> one : classes()) {
+            known.add(one.getSimpleName());
+        }
+        while (types.find()) {
+            c.that(types.group() + " is the program's own or one that the rules leave", known.contains(types.group()));
+        }
+    }
+
+    private static List<Class<?>> classes() {
+        List<Class<?>> all = new ArrayList<>(Arrays.asList(PieFunnels.class.getDeclaredClasses()));
+        all.add(PieFunnels.class);
+        return all;
+    }
+
+    /** A SHELF that isn't there at all, which no call brings about, is looked at before it is used. */
+    private void shelvesAreLookedAt() throws ReflectiveOperationException {
+        c.about("rule 7");
+        Field field = PieFunnels.class.getDeclaredField("shelves");
+        field.setAccessible(true);
+        for (String call : Runs.CALLS) {
+            PieFunnels x = new PieFunnels();
+            x.bird(0, 0, 0);
+            Checks.fill(x, 0, 1, 0);
+            x.show(1, 0);
+            x.image();
+            Object[] all = (Object[]) field.get(x);
+            for (int s = 0; s < all.length; s++) {
+                all[s] = null;
+            }
+            for (long first = 0; first < 2; first++) {
+                long[] arguments = new long[Calls.arguments(call)];
+                Arrays.fill(arguments, first);
+                c.that(call + " answers without SHELVES", answers(x, call, arguments));
+            }
+        }
+    }
+
+    private static boolean answers(PieFunnels x, String call, long... arguments) {
+        try {
+            Calls.on(x, call, arguments);
+            return true;
+        } catch (IllegalStateException thrown) {
+            return false;
         }
     }
 
@@ -87,8 +155,7 @@ public final class LanguageTest {
 
     private void names() {
         c.about("rule 1, names");
-        List<Class<?>> all = new ArrayList<>(Arrays.asList(PieFunnels.class.getDeclaredClasses()));
-        all.add(PieFunnels.class);
+        List<Class<?>> all = classes();
         for (Class<?> one : all) {
             for (Method method : one.getDeclaredMethods()) {
                 c.that(method + " bears no public one's name", !Modifier.isPrivate(method.getModifiers())
